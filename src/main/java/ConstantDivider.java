@@ -47,22 +47,22 @@ public final class ConstantDivider {
     private static final int LAST_RECIPROCAL_INPUT = 200000;
     private static final int GREATEST_RAISE = 20;
 
+    private final Generator generator;
     private final Program program;
+    private final int[] costs;
     private final History history;
     private final Machine machine;
     private final Tidier tidier;
     private final Listing listing;
-    private final Generator generator;
-    private final int[] costs;
 
     public ConstantDivider() {
-        program = new Program();
+        generator = new Generator();
+        program = generator.program;
+        costs = generator.costs;
         history = new History();
         machine = new Machine();
         tidier = new Tidier();
         listing = new Listing();
-        costs = new int[] {3, 5, 1};
-        generator = new Generator(program, costs);
     }
 
     // ---- settings
@@ -768,16 +768,16 @@ public final class ConstantDivider {
         }
     }
 
-    /** Writes the instructions of a kind behind those of a program; y and what is returned are operands. */
+    /** Holds the program and writes the instructions of a kind into it; y and what is returned are operands. */
     private static final class Generator {
-        private final Program program;
-        private final int[] costs;
+        final Program program;
+        final int[] costs;
         private final int input;
 
-        Generator(Program program, int[] costs) {
-            this.program = program;
-            this.costs = costs;
-            this.input = Program.operandOf(0);
+        Generator() {
+            program = new Program();
+            costs = new int[] {3, 5, 1};
+            input = Program.operandOf(0);
         }
 
         int writeKind(int kind, int d) {
@@ -1020,25 +1020,16 @@ public final class ConstantDivider {
             return ((long) exponent << fractionBits) + (long) (significand * one) - one;
         }
 
-        // Products by r rise with n. So of the numbers with the quotient q only the first and the
-        // last one must be looked at, as long as both are right.
+        // Each r here is within 22 / 2^23 of 1 / d, relatively, with the rounding of the product counted in.
+        // For n up to 200000 the product is then less than 1 / d away from n / d, so that only
+        // multiples of d can get a wrong quotient.
 
         static int firstFloatMiss(float r, int d, int last) {
             for (int q = 0; q <= last; q++) {
-                int start = q * d;
-                if (start > last) {
+                int n = q * d;
+                if (n > last) {
                     break;
                 }
-                int end = Math.min(start + d - 1, last);
-                if ((int) (start * r) != q || (int) (end * r) != q) {
-                    return firstFloatMissIn(r, q, start, end);
-                }
-            }
-            return NONE;
-        }
-
-        private static int firstFloatMissIn(float r, int q, int start, int end) {
-            for (int n = start; n <= end; n++) {
                 if ((int) (n * r) != q) {
                     return n;
                 }
@@ -1048,20 +1039,10 @@ public final class ConstantDivider {
 
         static int firstDoubleMiss(double r, int d, int last) {
             for (int q = 0; q <= last; q++) {
-                int start = q * d;
-                if (start > last) {
+                int n = q * d;
+                if (n > last) {
                     break;
                 }
-                int end = Math.min(start + d - 1, last);
-                if ((int) (start * r) != q || (int) (end * r) != q) {
-                    return firstDoubleMissIn(r, q, start, end);
-                }
-            }
-            return NONE;
-        }
-
-        private static int firstDoubleMissIn(double r, int q, int start, int end) {
-            for (int n = start; n <= end; n++) {
                 if ((int) (n * r) != q) {
                     return n;
                 }
