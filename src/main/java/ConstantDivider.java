@@ -984,11 +984,11 @@ public final class ConstantDivider {
             return count;
         }
 
-        /** The least n with floor(n * m / scale) different from floor(n / d); beyond all limits if there is none. */
+        /** The least n with floor(n * m / scale) different from floor(n / d); beyond LAST_REACHED if there is none. */
         static long firstUnreached(long m, long scale, long d) {
             long excess = d * m - scale;
             if (excess == 0) {
-                return Long.MAX_VALUE;
+                return LAST_REACHED + 1L;
             }
             if (excess < 0) {
                 // The quotient stays too small, and the first multiple of d shows it.

@@ -141,7 +141,7 @@ public final class FaceTest {
             Check.due("the text has no " + pattern, found.find(), false);
         }
         Matcher math = Pattern.compile("\\b(Math|Integer|Long)\\.(\\w+)").matcher(code);
-        Set<String> allowed = Set.of("min", "max", "abs", "floorDiv", "floorMod", "numberOfTrailingZeros", "MAX_VALUE");
+        Set<String> allowed = Set.of("min", "max", "abs", "floorDiv", "floorMod", "numberOfTrailingZeros");
         while (math.find()) {
             Check.due(math.group() + " is allowed", allowed.contains(math.group(2)), true);
         }
