@@ -13,6 +13,7 @@ public final class BoundsOfProgramsTest {
         tidyOfFullPrograms();
         tidyOfOperandsThatDiffer();
         tidyOfRepeatedResults();
+        tidyOfTheFirstAndTheLast();
         numbersOfInstructions();
         sides();
         costsAtTheEdges();
@@ -140,7 +141,7 @@ public final class BoundsOfProgramsTest {
         Bounds.allowed("drop() of one instruction", () -> Bounds.chain(8, 1), x -> x.drop());
     }
 
-    /** "if its value was the result, the value before it becomes the result"; "Returns the number of instructions then." */
+    /** "if its value was the result, the value before it becomes the result"; "the number of instructions then" */
     private static void dropsOfResults() {
         for (int length : new int[] {1, 2, 40}) {
             ConstantDivider last = Bounds.chain(8, length);
@@ -234,6 +235,22 @@ public final class BoundsOfProgramsTest {
         Check.due("listing", Check.listing(both), "v1 = add v0, 2\nv2 = mul v1, v1\nreturn v2\n");
     }
 
+    /** "the same .. as an earlier one": the first of 40, and the last or, where the first is needed itself, the 39th */
+    private static void tidyOfTheFirstAndTheLast() {
+        ConstantDivider last = Bounds.chain(8, 39);
+        last.append(3, false, 0, true, 1);
+        Check.due("tidy() with the last as the first", last.tidy(), 39);
+        Check.due("listing", Check.listing(last), "v1 = add v0, 1\nreturn v1\n");
+        ConstantDivider before = Bounds.chain(8, 38);
+        before.append(3, false, 0, true, 1);
+        before.append(9, false, 38, false, 39);
+        Check.due("tidy() with the 39th as the first", before.tidy(), 1);
+        Check.due("instructions() then", before.instructions(), 39);
+        Check.due("what it was used by", before.operand(38, 0), 38);
+        Check.due("its value is replaced", before.operand(38, 1), 1);
+        Check.due("result() then", before.result(), 39);
+    }
+
     /** "if there is no such instruction": with 0, 1 and 40 of them */
     private static void numbersOfInstructions() {
         for (int side = -1; side <= 2; side++) {
@@ -267,7 +284,8 @@ public final class BoundsOfProgramsTest {
     private static void sides() {
         for (int i : new int[] {0, 39}) {
             Bounds.Maker maker = () -> Bounds.chain(8, 40);
-            Bounds.range("operand(" + i + ", side), side is ", 0, 1, Check.INDEX, maker, (x, side) -> x.operand(i, side));
+            Bounds.range("operand(" + i + ", side), side is ", 0, 1, Check.INDEX, maker,
+                    (x, side) -> x.operand(i, side));
             Bounds.range("isConstant(" + i + ", side), side is ", 0, 1, Check.INDEX, maker,
                     (x, side) -> x.isConstant(i, side));
         }
