@@ -11,6 +11,9 @@ final class Check {
     static final String STATE = "IllegalStateException";
     static final String INDEX = "IndexOutOfBoundsException";
 
+    /** The longest has 40 lines of 25 characters and a last one of 11. */
+    private static final int LONGEST_LISTING = 2000;
+
     private static int wrong = 0;
     private static int checked = 0;
 
@@ -86,12 +89,13 @@ final class Check {
         return text.toString();
     }
 
+    /** Ends beyond the longest listing too, so that one without an end fails a test and does not hang it. */
     static String listing(ConstantDivider x) {
         StringBuilder text = new StringBuilder();
-        int k = 0;
-        for (int c = x.listingChar(k); c != -1; c = x.listingChar(k)) {
+        int c = x.listingChar(0);
+        for (int k = 1; c != -1 && k <= LONGEST_LISTING; k++) {
             text.append((char) c);
-            k++;
+            c = x.listingChar(k);
         }
         return text.toString();
     }
